@@ -573,6 +573,7 @@ public final class TonguerootFamily {
         supposed.tellOf(history.replacing(language, changed));
     }
 
+    // With loans or without, a language has a word just where the mother has one: two that differ are never none.
     private boolean differs(Lexicon lexicon, int language, int meaning) {
         return actual.wordOf(language, meaning) != lexicon.wordOf(language, meaning);
     }

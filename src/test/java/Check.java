@@ -14,8 +14,15 @@ final class Check {
         try {
             return String.valueOf(call.answer());
         } catch (RuntimeException thrown) {
-            return "throws." + thrown.getClass().getSimpleName();
+            return nameOf(thrown);
         }
+    }
+
+    /** What the machine or the library throws is told apart from what the program throws by itself. */
+    static String nameOf(Throwable thrown) {
+        StackTraceElement[] trace = thrown.getStackTrace();
+        boolean own = trace.length > 0 && !trace[0].getClassName().contains(".");
+        return (own ? "throws." : "machine.") + thrown.getClass().getSimpleName();
     }
 
     static void due(String what, Object want, Call call) {

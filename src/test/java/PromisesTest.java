@@ -80,7 +80,7 @@ public final class PromisesTest {
         return row.toString();
     }
 
-    /** The word for meaning 0 is 0 1 2, a daughter 1 with one law, and nothing else. */
+    /** What one law makes of a word. */
     private static String after(int[] word, int sounds, int becomes, int ahead, int behind) {
         TonguerootFamily x = new TonguerootFamily();
         put(x, 0, word);

@@ -68,7 +68,7 @@ public final class RandomRunsTest {
         try {
             return String.valueOf(method.invoke(on, arguments));
         } catch (InvocationTargetException thrown) {
-            return "throws." + thrown.getCause().getClass().getName();
+            return Check.nameOf(thrown.getCause());
         }
     }
 
