@@ -5,6 +5,7 @@ final class Check {
     }
 
     private static int wrong = 0;
+    private static String heading = "";
 
     private Check() {
     }
@@ -25,11 +26,16 @@ final class Check {
         return (own ? "throws." : "machine.") + thrown.getClass().getSimpleName();
     }
 
+    /** What stands ahead of each wrong answer that is printed from now on. */
+    static void under(String words) {
+        heading = words;
+    }
+
     static void due(String what, Object want, Call call) {
         String got = told(call);
         if (!got.equals(String.valueOf(want))) {
             wrong++;
-            System.out.println(what + " answered " + got + ", due is " + want);
+            System.out.println(heading + what + " answered " + got + ", due is " + want);
         }
     }
 

@@ -1,9 +1,5 @@
 /** Each promise of the document by hand: ordinary inputs, edges, wrong inputs. */
-public final class PromisesTest {
-    private static final int EDGE = 65536;
-    private static final int LOW = Integer.MIN_VALUE;
-    private static final int HIGH = Integer.MAX_VALUE;
-
+public final class PromisesTest extends FamilyTools {
     public static void main(String[] args) {
         newObject();
         setSound();
@@ -37,67 +33,6 @@ public final class PromisesTest {
         digest();
         nothingIsChanged();
         Check.end();
-    }
-
-    // ---- what the tests are made of
-
-    private static void put(TonguerootFamily x, int meaning, int... sounds) {
-        x.word(meaning);
-        for (int sound : sounds) {
-            x.spell(sound);
-        }
-    }
-
-    private static int set(int... members) {
-        int set = 0;
-        for (int member : members) {
-            set |= 1 << member;
-        }
-        return set;
-    }
-
-    private static String spelt(TonguerootFamily x, int language, int meaning) {
-        StringBuilder row = new StringBuilder();
-        for (int place = 0; place < x.length(language, meaning); place++) {
-            row.append(place == 0 ? "" : " ").append(x.soundAt(language, meaning, place));
-        }
-        return row.toString();
-    }
-
-    private static String recalledWord(TonguerootFamily x, int language, int meaning) {
-        StringBuilder row = new StringBuilder();
-        for (int place = 0; place < x.recalled(language, meaning); place++) {
-            row.append(place == 0 ? "" : " ").append(x.recalledAt(language, meaning, place));
-        }
-        return row.toString();
-    }
-
-    private static String table(TonguerootFamily x, int meaning, int one, int other) {
-        StringBuilder row = new StringBuilder();
-        for (int column = 0; column < x.columns(meaning, one, other); column++) {
-            row.append(column == 0 ? "" : " ").append(x.columnAt(meaning, one, other, column));
-        }
-        return row.toString();
-    }
-
-    /** What one law makes of a word. */
-    private static String after(int[] word, int sounds, int becomes, int ahead, int behind) {
-        TonguerootFamily x = new TonguerootFamily();
-        put(x, 0, word);
-        x.language(0);
-        x.law(1, sounds, becomes, ahead, behind);
-        return spelt(x, 1, 0);
-    }
-
-    private static int[] row(int... sounds) {
-        return sounds;
-    }
-
-    /** Sounds 0 and 1 differ in all features, so that a pair of them costs 7. */
-    private static TonguerootFamily farSounds() {
-        TonguerootFamily x = new TonguerootFamily();
-        x.setSound(1, 63);
-        return x;
     }
 
     // ---- promises 1 to 4
@@ -889,66 +824,52 @@ public final class PromisesTest {
         }
     }
 
-    private static TonguerootFamily fullFamily() {
-        TonguerootFamily x = new TonguerootFamily();
-        for (int sound = 0; sound < 16; sound++) {
-            x.setSound(sound, sound * 5 % 64);
-        }
-        for (int meaning = 0; meaning < 11; meaning++) {
-            put(x, meaning, meaning, meaning * 3 % 16, 2, 15 - meaning);
-        }
-        for (int language = 1; language < 10; language++) {
-            x.language((language - 1) / 2);
-            for (int law = 0; law < language - 1; law++) {
-                x.law(language, 0x1111 << law % 4, (law * 7 + language * 3) % 23 - 1, law % 3 == 0 ? EDGE | 0xff : 0,
-                    law % 3 == 1 ? 0xff00 : 0);
-            }
-        }
-        for (int loan = 0; loan < 12; loan++) {
-            x.loan(loan % 5, loan % 4, 4 + loan % 6, loan % 9);
-        }
-        return x;
-    }
-
+    /** Each word and each cost is asked of a family of its own, for after 512 calls an answer is free. */
     private static void digest() {
-        TonguerootFamily x = fullFamily();
-        long d = 2677;
-        d = d * 31 + x.languages();
-        d = d * 31 + x.loans();
-        for (int l = 0; l < x.languages(); l++) {
+        int languages = fullFamily().languages();
+        long d = (2677 * 31L + languages) * 31 + fullFamily().loans();
+        for (int l = 0; l < languages; l++) {
+            TonguerootFamily x = fullFamily();
             for (int v : row(x.laws(l), x.wealth(l), x.alike(l), x.soundsOf(l), x.nearest(l), x.recalledWell(l))) {
                 d = d * 31 + v;
             }
             for (int m = 0; m < 12; m++) {
-                d = d * 31 + x.length(l, m);
-                for (int p = 0; p < x.length(l, m); p++) {
-                    d = d * 31 + x.soundAt(l, m, p);
-                }
-                d = (d * 31 + x.origin(l, m)) * 31 + x.changedBy(l, m);
-                d = d * 31 + x.recalled(l, m);
-                for (int p = 0; p < x.recalled(l, m); p++) {
-                    d = d * 31 + x.recalledAt(l, m, p);
-                }
-                d = d * 31 + (x.looksLent(l, m) ? 1 : 0);
+                d = withWord(d, fullFamily(), l, m);
             }
         }
-        for (int a = 0; a < x.languages(); a++) {
-            for (int b = a + 1; b < x.languages(); b++) {
+        for (int a = 0; a < languages; a++) {
+            for (int b = a + 1; b < languages; b++) {
+                TonguerootFamily x = fullFamily();
                 for (int m = 0; m < 12; m++) {
                     d = d * 31 + x.cost(m, a, b);
                 }
             }
         }
-        Check.due("34: digest", d, () -> x.digest());
-        Check.due("34: once more", d, () -> x.digest());
-        Check.due("34: of another one that is the same", d, () -> fullFamily().digest());
+        long want = d;
+        TonguerootFamily x = fullFamily();
+        Check.due("34: digest", want, () -> x.digest());
+        Check.due("34: once more", want, () -> x.digest());
+        Check.due("34: of another one that is the same", want, () -> fullFamily().digest());
+    }
+
+    private static long withWord(long start, TonguerootFamily x, int l, int m) {
+        long d = start * 31 + x.length(l, m);
+        for (int p = 0; p < x.length(l, m); p++) {
+            d = d * 31 + x.soundAt(l, m, p);
+        }
+        d = (d * 31 + x.origin(l, m)) * 31 + x.changedBy(l, m);
+        d = d * 31 + x.recalled(l, m);
+        for (int p = 0; p < x.recalled(l, m); p++) {
+            d = d * 31 + x.recalledAt(l, m, p);
+        }
+        return d * 31 + (x.looksLent(l, m) ? 1 : 0);
     }
 
     /** All questions, and all calls that throw, leave the digest as it was. */
     private static void nothingIsChanged() {
-        TonguerootFamily x = fullFamily();
-        long before = x.digest();
+        long before = fullFamily().digest();
         for (int l = -1; l < 11; l++) {
+            TonguerootFamily x = fullFamily();
             for (int n = -1; n < 13; n++) {
                 int language = l;
                 int number = n;
@@ -959,14 +880,14 @@ public final class PromisesTest {
                 Check.told(() -> x.recalledAt(language, number, 0));
                 Check.told(() -> x.mainAnswer(language, number, 0));
             }
+            Check.told(() -> x.language(0));
+            Check.told(() -> x.loan(0, 0, 1, 0));
+            Check.told(() -> x.law(9, 1, 0, 0, 0));
+            Check.told(() -> x.unlaw(0));
+            Check.told(() -> x.word(12));
+            Check.told(() -> x.spell(16));
+            Check.told(() -> x.setSound(16, 0));
+            Check.due("nothing is changed", before, () -> x.digest());
         }
-        Check.told(() -> x.language(0));
-        Check.told(() -> x.loan(0, 0, 1, 0));
-        Check.told(() -> x.law(9, 1, 0, 0, 0));
-        Check.told(() -> x.unlaw(0));
-        Check.told(() -> x.word(12));
-        Check.told(() -> x.spell(16));
-        Check.told(() -> x.setSound(16, 0));
-        Check.due("nothing is changed", before, () -> x.digest());
     }
 }

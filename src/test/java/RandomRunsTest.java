@@ -6,6 +6,8 @@ import java.util.Comparator;
 /** Runs of calls made by a row of numbers (always the same one), each answer held against PlainFamily's. */
 public final class RandomRunsTest {
     private static final int RUNS = 240;
+    private static final int FULL_RUNS = 40;
+    private static final int FULL_CALLS = 16 + 12 * 11 + 9 + 9 * 8 + 12;
     private static final int CALLS = 512;
     private static final int[] WILD = {-1, -2, Integer.MIN_VALUE, Integer.MAX_VALUE, 10, 11, 12, 16, 64, 65536, 131072};
 
@@ -15,7 +17,7 @@ public final class RandomRunsTest {
         Method[] calls = TonguerootFamily.class.getDeclaredMethods();
         calls = Arrays.stream(calls).filter(m -> java.lang.reflect.Modifier.isPublic(m.getModifiers()))
             .sorted(Comparator.comparing(Method::getName)).toArray(Method[]::new);
-        for (int run = 0; run < RUNS; run++) {
+        for (int run = 0; run < RUNS + FULL_RUNS; run++) {
             seed = 7919L * run + 1;
             if (!sameAnswers(run, calls)) {
                 System.exit(1);
@@ -35,8 +37,10 @@ public final class RandomRunsTest {
         int alphabet = 2 + below(15);
         StringBuilder story = new StringBuilder();
         for (int call = 0; call < CALLS; call++) {
-            Method method = chosen(calls, call, run);
-            Object[] arguments = argumentsFor(method.getName(), method.getParameterCount(), plain, alphabet);
+            boolean fills = run >= RUNS && call < FULL_CALLS;
+            Method method = fills ? named(calls, filling(call)) : chosen(calls, call, run);
+            Object[] arguments = fills ? fillingArguments(call, alphabet)
+                : argumentsFor(method.getName(), method.getParameterCount(), plain, alphabet);
             String got = told(method, family, arguments);
             String want = told(PlainFamily.class.getMethod(method.getName(), method.getParameterTypes()),
                 plain, arguments);
@@ -56,12 +60,49 @@ public final class RandomRunsTest {
         if ((name.equals("digest") || name.equals("unlaw")) && below(4) != 0) {
             name = "length";
         }
+        return named(calls, name);
+    }
+
+    private static Method named(Method[] calls, String name) {
         for (Method method : calls) {
             if (method.getName().equals(name)) {
                 return method;
             }
         }
         throw new AssertionError(name);
+    }
+
+    /** The later runs begin with a family to which nothing can be added: the calls by which it is filled, in order. */
+    private static String filling(int call) {
+        int at = call - 16;
+        if (at < 0) {
+            return "setSound";
+        }
+        if (at < 12 * 11) {
+            return at % 11 == 0 ? "word" : "spell";
+        }
+        at -= 12 * 11;
+        return at < 9 ? "language" : at < 9 + 9 * 8 ? "law" : "loan";
+    }
+
+    private static Object[] fillingArguments(int call, int alphabet) {
+        int sound = below(alphabet);
+        switch (filling(call)) {
+            case "setSound":
+                return new Object[] {call, below(64)};
+            case "word":
+                return new Object[] {(call - 16) / 11};
+            case "spell":
+                return new Object[] {sound};
+            case "language":
+                return new Object[] {below(call - 16 - 12 * 11 + 1)};
+            case "law":
+                int language = 1 + (call - 16 - 12 * 11 - 9) / 8;
+                return new Object[] {language, set(alphabet), becomes(alphabet), nearby(alphabet), nearby(alphabet)};
+            default:
+                int to = 1 + below(9);
+                return new Object[] {below(4), below(to), to, below(9)};
+        }
     }
 
     private static String told(Method method, Object on, Object[] arguments) throws ReflectiveOperationException {
@@ -87,7 +128,7 @@ public final class RandomRunsTest {
 
     private static int usual(String name, int i, PlainFamily plain, int alphabet) {
         int sound = below(alphabet);
-        int meaning = below(5);
+        int meaning = below(4) == 0 ? below(12) : below(5);
         int language = below(plain.languages());
         switch (name) {
             case "setSound":
@@ -102,17 +143,17 @@ public final class RandomRunsTest {
                 return new int[] {below(3), language, language, below(9)}[i];
             case "soundAt":
             case "recalledAt":
-                return new int[] {language, meaning, below(4)}[i];
+                return new int[] {language, meaning, below(below(2) == 0 ? 4 : 11)}[i];
             case "cost":
             case "columns":
             case "columnAt":
-                return new int[] {meaning, language, below(plain.languages()), below(8)}[i];
+                return new int[] {meaning, language, below(plain.languages()), below(below(2) == 0 ? 8 : 12)}[i];
             case "answers":
             case "mainAnswer":
                 return i < 2 ? language : below(8) == 0 ? -1 : sound;
             case "swapped":
             case "without":
-                return i == 0 ? language : below(3);
+                return i == 0 ? language : below(below(2) == 0 ? 3 : 9);
             case "withoutLoan":
                 return below(12);
             default:
